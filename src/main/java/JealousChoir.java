@@ -259,7 +259,7 @@ public final class JealousChoir {
         }
     }
 
-    // ---- small helps
+    // ---- what several classes below use
 
     private static boolean isWithin(int number, int least, int most) {
         return number >= least && number <= most;
@@ -511,20 +511,18 @@ public final class JealousChoir {
         }
 
         private int seatsTaken() {
-            int bits = 0;
-            for (int i = 0; i < MOST_SINGERS; i++) {
-                if (isThere(i)) {
-                    bits |= 1 << seats[i];
-                }
-            }
-            return bits;
+            return bitsOf(seats);
         }
 
         private int notesSung() {
+            return bitsOf(notes);
+        }
+
+        private int bitsOf(int[] row) {
             int bits = 0;
             for (int i = 0; i < MOST_SINGERS; i++) {
                 if (isThere(i)) {
-                    bits |= 1 << notes[i];
+                    bits |= 1 << row[i];
                 }
             }
             return bits;
