@@ -951,7 +951,7 @@ public final class BoundaryTest {
 
   @Says("by more BARS, 60 at most in all: how many; how many more")
   private static void promise16_theLongestThatWasFound() {
-    // By the slow model. Of a million choirs none took longer, so no choir is known whose answer is NONE.
+    // By the slow model. Of the new choirs that were tried none took longer, so none is known whose answer is NONE.
     goesRound("CS75743S53573S62850S25513S39580S04293", 9, 2);
   }
 
