@@ -1106,6 +1106,7 @@ public final class BoundaryTest {
     gets(CHAIN, 2, 7, 9, N, N);
     gets("CS05901S17000", 0, 7, 1, N, N);
     gets("CS05900S47000", 0, 7, 9, N, N);
+    gets(SIX, 5, 9, 9, N, N);
   }
 
   @Says("In what follows nothing is changed.")
@@ -1495,6 +1496,15 @@ public final class BoundaryTest {
     // Of 0 and 2 alone neither sees the other; only where 1 comes between them is it one note.
     share(CHAIN, 0, 1, 2);
     share(CHAIN, 2, 1, 2);
+  }
+
+  @Says("(others are not there)")
+  private static void promise24_whoWasInAChoirBeforeIsNotThere() {
+    JealousChoir x = told(SIX);
+    x.share(0, true);
+    tell(x, "CS05002S15002");
+    due("share(0, true), of two behind six", x.share(0, true), 1);
+    due("share(0, false), of two behind six", x.share(0, false), 2);
   }
 
   @Says("NOTES that are sung behind 6 BARS")
