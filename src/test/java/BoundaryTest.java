@@ -1434,6 +1434,20 @@ public final class BoundaryTest {
     due("had(1), not so behind 8", x.had(1), 0);
   }
 
+  @Says("that it may have now | so that all that is HEARD is so")
+  private static void promise23_theBarsAreCountedFromWhenItIsAsked() {
+    JealousChoir x = told(SWING);
+    x.hear(0, 0, 0);
+    x.hear(0, 1, 5);
+    due("had(1)", x.had(1), 1023);
+    x.bar();
+    due("had(1), a bar later 5, then 0", x.had(1), 0);
+    x.bar();
+    due("had(1), two bars later 0, then 5 again", x.had(1), 1023);
+    x.undo();
+    due("had(1), one undone", x.had(1), 0);
+  }
+
   @Says("(of SINGERS that there are not any more nothing is looked at)")
   private static void promise23_ofSingersThatAreGone() {
     JealousChoir x = told(SIX);
